@@ -619,7 +619,8 @@ public final class BackFromBreakfast {
     thinkRow(0);
     int answer = NOTHING;
     for (int i = 0; i < inRow && answer == NOTHING; i++) {
-      if (!mind.hasRoom(numbers[i]) || !mind.isDone(numbers[i])) {
+      int room = numberAt(i);
+      if (!mind.hasRoom(room) || !mind.isDone(room)) {
         answer = i;
       }
     }
@@ -738,10 +739,15 @@ public final class BackFromBreakfast {
   private void thinkRow(int maid) {
     think();
     for (int i = 0; i < inRow; i++) {
-      if (mind.hasRoom(numbers[i])) {
-        mind.visitBy(maid, numbers[i]);
+      int room = numberAt(i);
+      if (mind.hasRoom(room)) {
+        mind.visitBy(maid, room);
       }
     }
+  }
+
+  private int numberAt(int i) {
+    return i >= 0 && i < numbers.length ? numbers[i] : 0;
   }
 
   /** Walks all orders of the set, the first by numbers first, so that of alike ones it stays. */
@@ -758,7 +764,7 @@ public final class BackFromBreakfast {
     for (int i = 0; i < ORDERS_OF_FIVE && more; i++) {
       think();
       for (int j = 0; j < length; j++) {
-        mind.visitBy(maid, path[j]);
+        mind.visitBy(maid, pathAt(j));
       }
       best.offer(pathNumber(length), mind.doneCount(), thoughtMinutes(maid));
       more = nextPath(length);
@@ -768,21 +774,26 @@ public final class BackFromBreakfast {
   private int pathNumber(int length) {
     int number = 0;
     for (int i = 0; i < length; i++) {
-      number = 10 * number + path[i] + 1;
+      number = 10 * number + pathAt(i) + 1;
     }
     return number;
   }
 
+  private int pathAt(int i) {
+    return i >= 0 && i < path.length ? path[i] : 0;
+  }
+
+  /** Makes the path the next one by numbers, if there is one. */
   private boolean nextPath(int length) {
     int i = length - 2;
-    while (i >= 0 && path[i] > path[i + 1]) {
+    while (i >= 0 && pathAt(i) > pathAt(i + 1)) {
       i--;
     }
     if (i < 0) {
       return false;
     }
     int j = length - 1;
-    while (j > i && path[j] < path[i]) {
+    while (j > i && pathAt(j) < pathAt(i)) {
       j--;
     }
     exchange(path, i, j);
@@ -874,8 +885,8 @@ public final class BackFromBreakfast {
 
   private boolean rowIsSo(int kind, int figure) {
     for (int i = 0; i + 1 < inRow; i += 2) {
-      boolean wasOut = numbers[i + 1] != 0;
-      if (Kinds.isOut(kind, figure, numbers[i]) != wasOut) {
+      boolean wasOut = numberAt(i + 1) != 0;
+      if (Kinds.isOut(kind, figure, numberAt(i)) != wasOut) {
         return false;
       }
     }
@@ -1326,11 +1337,13 @@ public final class BackFromBreakfast {
       if (wrong >= 0) {
         return WRONG_LETTER - wrong;
       }
+      int place = 0;
       int statements = 0;
-      for (int place = 0; place < length; place += signsOf(letterAt(place)) + 2) {
+      while (statements < length && place < length) {
         if (!comes(place, corridor)) {
           return WRONG_STATEMENT - place;
         }
+        place = behindStatement(place);
         statements++;
       }
       return statements;
@@ -1342,14 +1355,18 @@ public final class BackFromBreakfast {
         return 0;
       }
       int place = 0;
-      while (place < length) {
+      for (int i = 0; i < length && place < length; i++) {
         int wrong = wrongInStatement(place);
         if (wrong >= 0) {
           return wrong;
         }
-        place += signsOf(letterAt(place)) + 2;
+        place = behindStatement(place);
       }
       return -1;
+    }
+
+    private int behindStatement(int start) {
+      return start + signsOf(letterAt(start)) + 2;
     }
 
     private int wrongInStatement(int start) {

@@ -102,7 +102,12 @@ public final class RoomsTest {
     twoAre("rr0;rr0;c1;m026;m126;", 11);
     // 0: 13, 13; 1: 3, 15; 10: 11, 16; 11: 12, 12
     twoAre("rr5;rr1;m006;m126;t0001;t1007;", -9);
-    BackFromBreakfast x = Check.told("rr0;rr0;c1;m026;m126;");
+    // 0: 6, 6; 1: 0, 7; 10: 1, 6; 11: 7, 7
+    twoAre("rr0;c0;rr0;c1;m016;m106;t1005;", 10);
+    // each is 1 away from either: another one is no sooner
+    BackFromBreakfast x = Check.told("rr0;c0;rr0;rr0;c2;m026;m126;");
+    Check.due("alike soon", x.two(0, 2), 0);
+    x = Check.told("rr0;rr0;c1;m026;m126;");
     Check.due("two(1, 0)", x.two(1, 0), 0);
     Check.due("two(0, 0)", x.two(0, 0), -1);
     Check.due("two(2, 0)", x.two(2, 0), -1);

@@ -138,6 +138,11 @@ public final class RoundTest {
     orders(x, 0, 7, 123, 0, 3);
     x = Check.told("rl2;rr0;");
     orders(x, 0, 3, 12, 1, 11);
+    // up and all the way down; the fourth first, for she is there
+    x = Check.told("rr0;c0;rr0;c1;rr0;c2;rr0;c3;rr0;c4;m046;");
+    orders(x, 0, 31, 45321, 0, 5);
+    orders(x, 0, 30, 4532, 0, 4);
+    orders(x, 1, 31, 12345, 0, 5);
   }
 
   private static void shares(BackFromBreakfast x, int set, int bits, int done, int clock) {

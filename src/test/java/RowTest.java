@@ -90,8 +90,11 @@ public final class RowTest {
     judged(x, 15, 1, 1, 1, 1, 1, 1, 1, 1, 1, 1, 1, 1, 1, 1, 1, 2);
     x.undo(2);
     judged(x, -9, 1, 2);
-    // MAID 0 it is: MAID 1 would find 0 in at 302, at 309 out
+    // MAID 0 it is: at 302 the guest would be out
+    x = Check.told("rl9;t1300;");
     judged(x, 0, 0);
+    Check.tell(x, "t0300;t1000;");
+    judged(x, -9, 0);
   }
 
   private static void lotsAre(BackFromBreakfast x, int n, int z, int done, int minutes) {

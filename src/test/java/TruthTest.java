@@ -134,6 +134,9 @@ public final class TruthTest {
     Check.due("stays(1, 1)", x.stays(1, 1), 940);
     Check.due("stays(1, 60)", x.stays(1, 60), -6);
     Check.due("stays(1, 59)", x.stays(1, 59), 999);
+    x = new BackFromBreakfast();
+    Check.due("stays(0, 61) at 0", x.stays(0, 61), -6);
+    Check.due("stays(0, 60) at 0", x.stays(0, 60), 60);
   }
 
   private static void maidIs(String when, BackFromBreakfast x, int maid, int at, int load, int clock) {
@@ -186,6 +189,17 @@ public final class TruthTest {
   }
 
   private static void both() {
+    BackFromBreakfast y = Check.told("rr0;rr0;");
+    y.bothLong(1, 0);
+    y.howLong(1, 1, 0);
+    Check.due("a visit behind thoughts", y.visits(0, 0), 3);
+    Check.due("down behind thoughts", y.down(1), 2);
+    y.howLong(1, 1, 0);
+    Check.due("both behind thoughts", y.both(1), 3);
+    // 9, 10 and 2, 4: 10, knock 11, 15
+    maidIs("behind thoughts", y, 0, 2, 4, 15);
+    maidIs("behind thoughts", y, 1, 2, 6, 15);
+
     BackFromBreakfast x = Check.told("rr1;t0010;t1020;");
     Check.due("both work", x.both(0), 3);
     // 11 and 21, both 21, knock 22, 7 / 2 + 1 MINUTES
