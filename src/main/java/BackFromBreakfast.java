@@ -607,7 +607,7 @@ public final class BackFromBreakfast {
     if (v < 0) {
       return refuse(BELOW);
     }
-    if (v > 99 || inRow >= numbers.length) {
+    if (v > 99 || inRow < 0 || inRow >= numbers.length) {
       return refuse(ROOM);
     }
     numbers[inRow] = v;

@@ -78,6 +78,35 @@ final class Check {
     return text.toString();
   }
 
+  /**
+   * All that an object holds, the numbers of the row, the letters and the image too, as one text. The row,
+   * the letters and what is now are spent by it; refusals are not told.
+   */
+  static String spent(BackFromBreakfast x) {
+    StringBuilder text = new StringBuilder();
+    for (int what = 0; what <= 7; what++) {
+      text.append(x.count(what)).append(' ');
+    }
+    text.append(state(x)).append("round ");
+    for (int maid = 0; maid < 2; maid++) {
+      text.append(x.swap(maid)).append(' ');
+      for (int what = 0; what <= 2; what++) {
+        text.append(x.round(maid, what)).append(' ');
+      }
+    }
+    text.append("judge ").append(x.judge()).append(" told ").append(x.corridor()).append(' ').append(state(x));
+    return text.append("image ").append(x.on()).append(' ').append(state(x)).toString();
+  }
+
+  /** How many refusals there were of each number, -1 to -6. */
+  static String refusals(BackFromBreakfast x) {
+    StringBuilder text = new StringBuilder();
+    for (int what = 11; what <= 16; what++) {
+      text.append(x.count(what)).append(' ');
+    }
+    return text.toString();
+  }
+
   static void end(String name) {
     System.out.println(name + ": " + right + " as due, " + wrong + " not");
     System.exit(wrong == 0 && right > 0 ? 0 : 1);
