@@ -542,9 +542,15 @@ public final class BackFromBreakfast {
     if (part < 0 || part > 1) {
       return refuseLong(OTHER);
     }
-    long all = waysToTake(k, now.rooms());
-    long allDone = waysToTake(k, now.doneCount());
-    return partOf(all - allDone, all, part);
+    long all = 0;
+    long seen = 0;
+    for (int looked = 0; looked < 1 << now.rooms(); looked++) {
+      if (Integer.bitCount(looked) == k) {
+        all++;
+        seen += (looked & ~now.doneBits()) != 0 ? 1 : 0;
+      }
+    }
+    return partOf(seen, all, part);
   }
 
   public long likely(int maid, int v, int t, int part) {
@@ -676,7 +682,7 @@ public final class BackFromBreakfast {
 
   public int count(int what) {
     if (what >= 11 && what <= 16) {
-      return refusals[what - 10];
+      return timesRefused(what - 10);
     }
     switch (what) {
       case 0: return now.rooms();
@@ -699,6 +705,10 @@ public final class BackFromBreakfast {
       refusals[kind]++;
     }
     return number;
+  }
+
+  private int timesRefused(int kind) {
+    return kind >= 0 && kind < refusals.length ? refusals[kind] : 0;
   }
 
   private long refuseLong(int number) {
@@ -903,14 +913,6 @@ public final class BackFromBreakfast {
     return (seed & 0x7fffffff) / 256 % 10;
   }
 
-  private static long waysToTake(int k, int n) {
-    long ways = 1;
-    for (int i = 0; i < k; i++) {
-      ways = ways * (n - i) / (i + 1);
-    }
-    return ways;
-  }
-
   private static long power(long base, int exponent) {
     long product = 1;
     for (int i = 0; i < exponent; i++) {
@@ -1052,8 +1054,9 @@ public final class BackFromBreakfast {
       at = new int[2];
       loads = new int[2];
       clocks = new int[2];
-      loads[0] = FULL_LOAD;
-      loads[1] = FULL_LOAD;
+      for (int maid = 0; maid < loads.length; maid++) {
+        loads[maid] = FULL_LOAD;
+      }
     }
 
     /** Who stays in and how often one went down are of one thought only, so they are not taken over. */
@@ -1063,14 +1066,16 @@ public final class BackFromBreakfast {
       cards = other.cards;
       staying = 0;
       downs = 0;
-      for (int room = 0; room < MOST_ROOMS; room++) {
-        kinds[room] = other.kinds[room];
-        figures[room] = other.figures[room];
-      }
-      for (int maid = 0; maid < 2; maid++) {
-        at[maid] = other.at[maid];
-        loads[maid] = other.loads[maid];
-        clocks[maid] = other.clocks[maid];
+      takeOver(kinds, other.kinds);
+      takeOver(figures, other.figures);
+      takeOver(at, other.at);
+      takeOver(loads, other.loads);
+      takeOver(clocks, other.clocks);
+    }
+
+    private static void takeOver(int[] values, int[] others) {
+      for (int i = 0; i < values.length && i < others.length; i++) {
+        values[i] = others[i];
       }
     }
 
@@ -1089,8 +1094,8 @@ public final class BackFromBreakfast {
       if (rooms < 0 || rooms >= MOST_ROOMS) {
         return false;
       }
-      kinds[rooms] = kind;
-      figures[rooms] = figure;
+      setKind(rooms, kind);
+      setFigure(rooms, figure);
       rooms++;
       return true;
     }
@@ -1200,7 +1205,7 @@ public final class BackFromBreakfast {
     }
 
     int laterClock() {
-      return Math.max(clocks[0], clocks[1]);
+      return Math.max(clockOf(0), clockOf(1));
     }
 
     int timesDown() {

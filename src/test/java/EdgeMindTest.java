@@ -491,6 +491,10 @@ public final class EdgeMindTest {
     cardBestIs("rl9;rl9;rl9;rl9;rl9;rl9;rl9;rl9;", 0);
     // 13, in at 14; 15, out at 16, down 8, in at 24: by a CARD there 9 MINUTES less, by the other one 1
     cardBestIs("rl9;rr7;m020;t0012;", 1);
+    // "the ROOM without a CARD": 7, 8, knock 9, 16; with the CARD taken away 7, knock 8, 11, 12, knock 13 in vain
+    cardBestIs("ru0;c0;rs0;t0006;", -9);
+    // 7, knock 8, 11, 12, knock 13 in vain: with a CARD on the second as many are DONE, a MINUTE sooner
+    cardBestIs("ru0;rs0;t0006;", 1);
   }
 
   private static void tipsAre(String text, int all, int one, int differ) {

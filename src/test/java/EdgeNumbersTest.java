@@ -280,6 +280,12 @@ public final class EdgeNumbersTest {
     judged(x, 15, 0, 1, 2, 3, 4, 6, 7, 0, 1, 2, 3, 4, 6, 7, 0, 5);
     judged(x, 15, 0, 1, 2, 3, 4, 6, 7, 0, 1, 2, 3, 4, 6, 7, 0, 8);
     judged(x, 14, 0, 1, 2, 3, 4, 6, 7, 0, 1, 2, 3, 4, 6, 7, 9, 5);
+    // numbers that would be DONE ROOMS, if 32 or 64 or 96 less were they
+    judged(x, 1, 0, 32);
+    judged(x, 2, 1, 0, 64);
+    judged(x, 1, 0, 96);
+    judged(x, 1, 3, 35);
+    judged(x, 1, 3, 99);
     // DONE behind it all: in at first, out when she comes again; DONE ahead of it, with a CARD
     x = Check.told("rr9;ru0;t0000;");
     judged(x, -9, 0, 1, 0);
